@@ -1,0 +1,100 @@
+import java.io.IOException;
+import java.lang.reflect.Constructor;
+import java.lang.reflect.Field;
+import java.lang.reflect.Method;
+import java.lang.reflect.Modifier;
+import java.nio.file.Files;
+import java.nio.file.Path;
+import java.util.Arrays;
+import java.util.List;
+import java.util.Set;
+import java.util.TreeSet;
+import java.util.regex.Pattern;
+
+/** The public face, and those rules of LANGUAGE.md that can be seen from outside or by their words. */
+public final class FaceTest {
+    private static final List<String> FACE = List.of(
+            "int fact(int, int, int)", "int remove(int, int, int)", "int rule(int, int, int)",
+            "int body(int, int, int, int, boolean)", "int filter(int, int, int, int)",
+            "int aggregate(int, int, int)", "int drop(int)", "int safe(int)", "int run()",
+            "int stratum(int)", "int holds(int, int, int)", "int round(int, int, int)",
+            "int counts(int, int, int)", "int row(int)", "int size()");
+    private static final List<String> FORBIDDEN = List.of(
+            "\\bthrow\\b", "\\btry\\b", "\\bcatch\\b", "\\bsynchronized\\b", "\\bassert\\b", "->", "::",
+            "\\bpackage\\b", "Exact\\b", "\\bnew\\s+Random\\b", "\\bSystem\\.(?!arraycopy)",
+            "\\bimport\\s+(?!java\\.util\\.Arrays;)");
+
+    private static int wrong = 0;
+
+    private static void due(String what, Object got, Object want) {
+        if (!got.equals(want)) {
+            wrong++;
+            System.out.println(what + ": " + got + ", due is " + want);
+        }
+    }
+
+    public static void main(String[] args) throws IOException {
+        Class<?> face = RuleEngine.class;
+        due("final and public", Modifier.toString(face.getModifiers()), "public final");
+        due("BAD", RuleEngine.BAD, -1);
+        due("NO", RuleEngine.NO, -2);
+        due("FULL", RuleEngine.FULL, -3);
+        lookAtMembers(face);
+        for (Class<?> inner : face.getDeclaredClasses()) {
+            due("static: " + inner, Modifier.isStatic(inner.getModifiers()), true);
+            due("not public: " + inner, Modifier.isPublic(inner.getModifiers()), false);
+            lookAtFields(inner);
+        }
+        lookAtWords();
+        System.out.println(wrong == 0 ? "the face is as due" : wrong + " things are not as due");
+        if (wrong != 0) {
+            System.exit(1);
+        }
+    }
+
+    private static void lookAtMembers(Class<?> face) {
+        Set<String> seen = new TreeSet<>();
+        Set<String> names = new TreeSet<>();
+        for (Method m : face.getDeclaredMethods()) {
+            if (!Modifier.isPrivate(m.getModifiers())) {
+                due("public: " + m, Modifier.toString(m.getModifiers()), "public");
+                String types = Arrays.toString(m.getParameterTypes()).replace("[", "(").replace("]", ")");
+                seen.add(m.getReturnType() + " " + m.getName() + types);
+                names.add(m.getName());
+            }
+        }
+        due("methods", seen, new TreeSet<>(FACE));
+        for (Method m : face.getDeclaredMethods()) {
+            due("a private method " + m, Modifier.isPrivate(m.getModifiers()) && names.contains(m.getName()), false);
+        }
+        Constructor<?>[] made = face.getDeclaredConstructors();
+        due("constructors", Arrays.toString(made), "[public RuleEngine()]");
+        Set<String> constants = new TreeSet<>();
+        for (Field f : face.getDeclaredFields()) {
+            if (!Modifier.isPrivate(f.getModifiers())) {
+                constants.add(f.toString());
+            }
+        }
+        due("constants", constants.toString(), "[public static final int RuleEngine.BAD, "
+                + "public static final int RuleEngine.FULL, public static final int RuleEngine.NO]");
+        lookAtFields(face);
+    }
+
+    private static void lookAtFields(Class<?> c) {
+        int own = 0;
+        for (Field f : c.getDeclaredFields()) {
+            boolean shared = Modifier.isStatic(f.getModifiers());
+            due("final: " + f, !shared || Modifier.isFinal(f.getModifiers()), true);
+            own += shared ? 0 : 1;
+        }
+        due("few fields: " + c, own <= 20, true);
+    }
+
+    private static void lookAtWords() throws IOException {
+        String text = Files.readString(Path.of("src/main/java/RuleEngine.java"));
+        String code = text.replaceAll("(?s)/\\*.*?\\*/", "").replaceAll("//[^\n]*", "");
+        for (String word : FORBIDDEN) {
+            due("has " + word, Pattern.compile(word).matcher(code).find(), false);
+        }
+    }
+}
