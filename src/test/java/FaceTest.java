@@ -65,7 +65,13 @@ public final class FaceTest {
         }
         due("methods", seen, new TreeSet<>(FACE));
         for (Method m : face.getDeclaredMethods()) {
-            due("a private method " + m, Modifier.isPrivate(m.getModifiers()) && names.contains(m.getName()), false);
+            boolean hidden = Modifier.isPrivate(m.getModifiers());
+            due("named as a public one: " + m, hidden && names.contains(m.getName()), false);
+        }
+        for (Class<?> inner : face.getDeclaredClasses()) {
+            for (Method m : inner.getDeclaredMethods()) {
+                due("named as a public one: " + m, names.contains(m.getName()), false);
+            }
         }
         Constructor<?>[] made = face.getDeclaredConstructors();
         due("constructors", Arrays.toString(made), "[public RuleEngine()]");
