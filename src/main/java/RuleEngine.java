@@ -719,8 +719,8 @@ public final class RuleEngine {
 
         /**
          * Which of the wanted numbers the second item is when the first one is x; tally has how often.
-         * One variable is enough for all rings: five parts are at most five links, and rings that no one
-         * variable lies on would need six.
+         * Fixing one variable is enough: five parts are at most five links, and rings that the variable
+         * with most links does not lie on would need six.
          */
         int find(int x, int wanted) {
             if (!begin(x, wanted) || !foldAll(1)) {
@@ -788,7 +788,7 @@ public final class RuleEngine {
             return true;
         }
 
-        /** Each turn but the last folds one variable; answers false when there is no case. */
+        /** Each turn but the last folds one variable or more; answers false when there is no case. */
         private boolean foldAll(int level) {
             boolean more = true;
             for (int turn = 0; more && turn < VARIABLES; turn++) {

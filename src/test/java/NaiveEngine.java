@@ -322,7 +322,8 @@ final class NaiveEngine {
     }
 
     /** Plain parts in a row give the variables their numbers; the other parts are looked at at the end. */
-    private static void collect(Rule r, int at, int[] numbers, NavigableSet<Integer> facts, List<int[]> cases) {
+    private static void collect(
+            Rule r, int at, int[] numbers, NavigableSet<Integer> facts, List<int[]> cases) {
         if (at == r.parts.size()) {
             if (othersAreSo(r, numbers, facts)) {
                 cases.add(numbers.clone());

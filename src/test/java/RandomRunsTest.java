@@ -157,7 +157,9 @@ public final class RandomRunsTest {
         for (int i = 0; i < plain; i++) {
             int n = random.nextInt(30) == 0 ? random.nextInt(names) : fullName(kind < 0 ? head + 1 : head);
             // five parts with variables in a row are often a ring, which the engine treats on its own
-            int[] p = ring ? new int[] {3, n, -1 - i % variables, -1 - (i + 1) % variables} : new int[] {3, n, item(), item()};
+            int x = ring ? -1 - i % variables : item();
+            int y = ring ? -1 - (i + 1) % variables : item();
+            int[] p = {3, n, x, y};
             parts.add(p);
             items.add(p[2]);
             items.add(p[3]);
