@@ -33,6 +33,7 @@ public final class BoundsTest extends Sentences {
         rowAtTheEnds();
         size();
         refusedCallsChangeNothing();
+        questionsChangeNothing();
         end();
     }
 
@@ -838,6 +839,41 @@ public final class BoundsTest extends Sentences {
             sameAnswers(e, twin, state);
             due(e.body(1, 0, 0, 0, false), 3, state);
             due(e.body(2, 0, 0, 0, false), 2, state);
+        }
+    }
+
+    /** All questions, again and again from another one on, so that each of them comes first once. */
+    private static void askAll(RuleEngine e, int from) {
+        for (int i = from; i < from + 8; i++) {
+            switch (i % 8) {
+                case 0 -> e.run();
+                case 1 -> e.size();
+                case 2 -> e.row(2000 * from - 1);
+                case 3 -> e.safe(from % 3);
+                case 4 -> e.stratum(from);
+                case 5 -> e.holds(1, from, from + 1);
+                case 6 -> e.round(1, 1, 3);
+                default -> e.counts(2, 1, from);
+            }
+        }
+    }
+
+    private static void questionsChangeNothing() {
+        says("Nothing is promised beyond the answers and state changes described above");
+        for (int state = 0; state < 3; state++) {
+            for (int from = 0; from < 8; from++) {
+                RuleEngine asked = prepared(state);
+                RuleEngine twin = prepared(state);
+                askAll(asked, from);
+                askAll(asked, 7 - from);
+                due(asked.fact(0, 3, from), twin.fact(0, 3, from), state, from);
+                askAll(asked, from);
+                due(asked.body(1, 0, -3, -4, false), twin.body(1, 0, -3, -4, false), state, from);
+                askAll(asked, from);
+                due(asked.remove(1, 1, 2), 0, state, from);
+                due(asked.drop(2), twin.drop(2), state, from);
+                sameAnswers(asked, twin, state);
+            }
         }
     }
 }

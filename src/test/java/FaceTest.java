@@ -13,12 +13,18 @@ import java.util.regex.Pattern;
 
 /** The public face, and those rules of LANGUAGE.md that can be seen from outside or by their words. */
 public final class FaceTest {
+    /** The methods as the document writes them, their parameters by name. */
     private static final List<String> FACE = List.of(
-            "int fact(int, int, int)", "int remove(int, int, int)", "int rule(int, int, int)",
-            "int body(int, int, int, int, boolean)", "int filter(int, int, int, int)",
-            "int aggregate(int, int, int)", "int drop(int)", "int safe(int)", "int run()",
-            "int stratum(int)", "int holds(int, int, int)", "int round(int, int, int)",
-            "int counts(int, int, int)", "int row(int)", "int size()");
+            "int fact(int name, int a, int b)", "int remove(int name, int a, int b)",
+            "int rule(int name, int x, int y)", "int body(int rule, int name, int x, int y, boolean not)",
+            "int filter(int rule, int does, int x, int y)", "int aggregate(int rule, int kind, int variable)",
+            "int drop(int rule)", "int safe(int rule)", "int run()", "int stratum(int name)",
+            "int holds(int name, int a, int b)", "int round(int name, int a, int b)",
+            "int counts(int name, int a, int b)", "int row(int n)", "int size()");
+    /** How many lines, parameters and classes LANGUAGE.md leaves (rule 11). */
+    private static final int LINES = 60;
+    private static final int PARAMETERS = 7;
+    private static final int CLASSES = 12;
     private static final List<String> FORBIDDEN = List.of(
             "\\bthrow\\b", "\\btry\\b", "\\bcatch\\b", "\\bsynchronized\\b", "\\bassert\\b", "->", "::",
             "\\bpackage\\b", "Exact\\b", "\\bnew\\s+Random\\b", "\\bSystem\\.(?!arraycopy)",
@@ -45,7 +51,10 @@ public final class FaceTest {
             due("not public: " + inner, Modifier.isPublic(inner.getModifiers()), false);
             lookAtFields(inner);
         }
-        lookAtWords();
+        due("few classes", face.getDeclaredClasses().length < CLASSES, true);
+        String text = Files.readString(Path.of("src/main/java/RuleEngine.java"));
+        lookAtWords(text.replaceAll("(?s)/\\*.*?\\*/", "").replaceAll("//[^\n]*", ""));
+        lookAtLengths(text.split("\n"));
         System.out.println(wrong == 0 ? "the face is as due" : wrong + " things are not as due");
         if (wrong != 0) {
             System.exit(1);
@@ -63,7 +72,11 @@ public final class FaceTest {
                 names.add(m.getName());
             }
         }
-        due("methods", seen, new TreeSet<>(FACE));
+        Set<String> asDue = new TreeSet<>();
+        for (String line : FACE) {
+            asDue.add(line.replaceAll("(int|boolean) \\w+(?=[,)])", "$1"));
+        }
+        due("methods", seen, asDue);
         for (Method m : face.getDeclaredMethods()) {
             boolean hidden = Modifier.isPrivate(m.getModifiers());
             due("named as a public one: " + m, hidden && names.contains(m.getName()), false);
@@ -71,6 +84,7 @@ public final class FaceTest {
         for (Class<?> inner : face.getDeclaredClasses()) {
             for (Method m : inner.getDeclaredMethods()) {
                 due("named as a public one: " + m, names.contains(m.getName()), false);
+                due("few parameters: " + m, m.getParameterCount() <= PARAMETERS, true);
             }
         }
         Constructor<?>[] made = face.getDeclaredConstructors();
@@ -96,11 +110,30 @@ public final class FaceTest {
         due("few fields: " + c, own <= 20, true);
     }
 
-    private static void lookAtWords() throws IOException {
-        String text = Files.readString(Path.of("src/main/java/RuleEngine.java"));
-        String code = text.replaceAll("(?s)/\\*.*?\\*/", "").replaceAll("//[^\n]*", "");
+    private static void lookAtWords(String code) {
+        for (String line : FACE) {
+            due("has " + line, code.contains("    public " + line + " {\n"), true);
+        }
         for (String word : FORBIDDEN) {
             due("has " + word, Pattern.compile(word).matcher(code).find(), false);
         }
+    }
+
+    /** A method's last line is the first one that is its closing bracket, as far in as its first line. */
+    private static void lookAtLengths(String[] lines) {
+        Pattern start = Pattern.compile("( {4}| {8})[a-zA-Z].*\\) \\{");
+        int methods = 0;
+        for (int i = 0; i < lines.length; i++) {
+            if (start.matcher(lines[i]).matches() && !lines[i].matches(" *(if|for|while|switch) .*")) {
+                String end = lines[i].replaceAll("\\S.*", "}");
+                int last = i;
+                while (last < lines.length && !lines[last].equals(end)) {
+                    last++;
+                }
+                due("short: " + lines[i], last - i < LINES, true);
+                methods++;
+            }
+        }
+        due("methods seen", methods > FACE.size(), true);
     }
 }
